@@ -28,6 +28,7 @@ public final class StrengthLayout {
 
     private static final int PLACE_PROPERTIES = 6;
     private static final int CONDITION_PROPERTIES = 10;
+    private static final int CULPRITS = 8;
     private static final int EDIT_PROPERTIES = 5;
     private static final int COUNTS = 8;
 
@@ -39,16 +40,17 @@ public final class StrengthLayout {
     private final Layout trial = new Layout();
     private final Filling trialFilling = new Filling();
 
-    // Which conditions are filled without condition k, as bits; the bits of known tell for which k it is there.
+    // Which conditions are filled without condition k, as bits. It is worked out when it is first asked for after a
+    // change, since the culprits of all conditions ask for the same fillings.
     private final int[] filledWithout = new int[MOST_CONDITIONS];
-    private int known;
+    private boolean knowsWithout;
 
     private final int[] buffer = new int[MOST_CHARACTERS];
     private int length;
     private final TextReader reader = new TextReader();
 
     public StrengthLayout() {
-        filling.fill(now, NONE);
+        // What a filling tells at first is what it tells of a layout without conditions and edits.
     }
 
     // ---- conditions
@@ -172,6 +174,9 @@ public final class StrengthLayout {
     public int condition(int k, int what) throws IndexOutOfBoundsException, IllegalArgumentException {
         needIndex(isCondition(k));
         needArgument(isWithin(what, 0, CONDITION_PROPERTIES - 1));
+        if (what == CULPRITS) {
+            knowWithout();
+        }
         return conditionProperty(k, what);
     }
 
@@ -206,7 +211,8 @@ public final class StrengthLayout {
 
     public int ifRemoved(int k) throws IndexOutOfBoundsException {
         needIndex(isCondition(k));
-        return Integer.bitCount(filledIfMissing(k));
+        knowWithout();
+        return Integer.bitCount(filledWithout[k]);
     }
 
     public int neededStrength(int k) throws IndexOutOfBoundsException {
@@ -223,6 +229,7 @@ public final class StrengthLayout {
     }
 
     public long digest() {
+        knowWithout();
         long hash = 2129L;
         for (int what = 0; what < COUNTS; what++) {
             hash = mixed(hash, countOf(what));
@@ -296,7 +303,18 @@ public final class StrengthLayout {
 
     private void fillAnew() {
         filling.fill(now, NONE);
-        known = 0;
+        knowsWithout = false;
+    }
+
+    private void knowWithout() {
+        if (knowsWithout) {
+            return;
+        }
+        for (int k = 0; k < now.conditions.size; k++) {
+            trialFilling.fill(now, k);
+            filledWithout[k] = trialFilling.ofConditions.filled;
+        }
+        knowsWithout = true;
     }
 
     private int readBuffer() {
@@ -332,7 +350,7 @@ public final class StrengthLayout {
             case 5: return filling.ofConditions.filledOne(k);
             case 6: return filling.ofConditions.margin[k];
             case 7: return filling.ofConditions.turn[k];
-            case 8: return culpritsOf(k);
+            case CULPRITS: return culpritsOf(k);
             default: return now.holds(k) ? 1 : 0;
         }
     }
@@ -398,6 +416,7 @@ public final class StrengthLayout {
         return places;
     }
 
+    /** Asks for knowWithout before it, as each way to it has done: it calls no filling itself, to stay shallow. */
     private int culpritsOf(int k) {
         Outcome outcome = filling.ofConditions;
         if (outcome.filledOne(k) == 1) {
@@ -406,21 +425,11 @@ public final class StrengthLayout {
         int culprits = 0;
         for (int c = 0; c < now.conditions.size; c++) {
             boolean may = outcome.filledOne(c) == 1 && outcome.turn[c] < outcome.turn[k];
-            if (may && (filledIfMissing(c) >> k & 1) == 1) {
+            if (may && (filledWithout[c] >> k & 1) == 1) {
                 culprits |= 1 << c;
             }
         }
         return culprits;
-    }
-
-    /** Kept until the next change, since the culprits of all conditions ask for the same fillings. */
-    private int filledIfMissing(int k) {
-        if ((known >> k & 1) == 0) {
-            trialFilling.fill(now, k);
-            filledWithout[k] = trialFilling.ofConditions.filled;
-            known |= 1 << k;
-        }
-        return filledWithout[k];
     }
 
     private int leastFillingStrength(int k) {
@@ -457,7 +466,7 @@ public final class StrengthLayout {
             for (int what = 0; what < CONDITION_PROPERTIES; what++) {
                 hash = mixed(hash, conditionProperty(k, what));
             }
-            hash = mixed(hash, Integer.bitCount(filledIfMissing(k)));
+            hash = mixed(hash, Integer.bitCount(filledWithout[k]));
             hash = mixed(hash, leastFillingStrength(k));
         }
         return hash;
@@ -572,9 +581,9 @@ public final class StrengthLayout {
         /** By how much the rule narrows a difference that goes from least to greatest. */
         int narrowing(int k, int least, int greatest) {
             switch (sign[k]) {
-                case AT_MOST: return Math.max(0, greatest - number[k]);
+                case AT_MOST: return greatest > number[k] ? greatest - number[k] : 0;
                 case EQUAL: return greatest - least;
-                default: return Math.max(0, number[k] - least);
+                default: return number[k] > least ? number[k] - least : 0;
             }
         }
 
@@ -665,6 +674,10 @@ public final class StrengthLayout {
     private static final class Bounds {
         private final int[][] greatest = new int[NODES][NODES];
 
+        Bounds() {
+            open();
+        }
+
         void open() {
             for (int one = 0; one < NODES; one++) {
                 for (int other = 0; other < NODES; other++) {
@@ -702,30 +715,11 @@ public final class StrengthLayout {
             for (int from = 0; from < NODES; from++) {
                 int way = greatest[from][one] + most;
                 // Where the way to the other one is no shorter, no way over it is.
-                if (way < greatest[from][other]) {
-                    shorten(from, other, way);
+                boolean shorter = way < greatest[from][other];
+                for (int to = 0; shorter && to < NODES; to++) {
+                    int over = way + greatest[other][to];
+                    greatest[from][to] = over < greatest[from][to] ? over : greatest[from][to];
                 }
-            }
-        }
-
-        private void shorten(int from, int over, int way) {
-            for (int to = 0; to < NODES; to++) {
-                greatest[from][to] = Math.min(greatest[from][to], way + greatest[over][to]);
-            }
-        }
-
-        void equate(int one, int other, int number) {
-            limit(one, other, number);
-            limit(other, one, -number);
-        }
-
-        void impose(Rules rules, int k) {
-            int left = rules.left[k];
-            int right = rules.rightNode(k);
-            switch (rules.sign[k]) {
-                case AT_MOST: limit(left, right, rules.number[k]); break;
-                case EQUAL: equate(left, right, rules.number[k]); break;
-                default: limit(right, left, -rules.number[k]); break;
             }
         }
     }
@@ -756,30 +750,37 @@ public final class StrengthLayout {
             ofEdits.filled = 0;
             turns = 0;
             for (int strength = MOST_STRENGTH; strength >= 0; strength--) {
-                fillThoseOf(strength, layout.edits, ofEdits, NONE);
-                fillThoseOf(strength, layout.conditions, ofConditions, missing);
-            }
-        }
-
-        private void fillThoseOf(int strength, Rules rules, Outcome outcome, int missing) {
-            for (int k = 0; k < rules.size; k++) {
-                if (rules.strength[k] == strength && k != missing) {
-                    fillOne(rules, k, outcome);
+                for (int k = 0; k < layout.edits.size; k++) {
+                    if (layout.edits.strength[k] == strength) {
+                        fillOne(layout.edits, k, ofEdits);
+                    }
+                }
+                for (int k = 0; k < layout.conditions.size; k++) {
+                    if (layout.conditions.strength[k] == strength && k != missing) {
+                        fillOne(layout.conditions, k, ofConditions);
+                    }
                 }
             }
         }
 
         private void fillOne(Rules rules, int k, Outcome outcome) {
-            int least = bounds.least(rules.left[k], rules.rightNode(k));
-            int greatest = bounds.greatest(rules.left[k], rules.rightNode(k));
+            int left = rules.left[k];
+            int right = rules.rightNode(k);
+            int least = bounds.least(left, right);
+            int greatest = bounds.greatest(left, right);
             outcome.turn[k] = turns;
             turns++;
-            if (rules.canHold(k, least, greatest)) {
-                outcome.filled |= 1 << k;
-                outcome.margin[k] = rules.narrowing(k, least, greatest);
-                bounds.impose(rules, k);
-            } else {
+            if (!rules.canHold(k, least, greatest)) {
                 outcome.margin[k] = rules.missing(k, least, greatest);
+                return;
+            }
+            outcome.filled |= 1 << k;
+            outcome.margin[k] = rules.narrowing(k, least, greatest);
+            if (rules.sign[k] != AT_LEAST) {
+                bounds.limit(left, right, rules.number[k]);
+            }
+            if (rules.sign[k] != AT_MOST) {
+                bounds.limit(right, left, -rules.number[k]);
             }
         }
 
@@ -799,7 +800,8 @@ public final class StrengthLayout {
             int atLeast = Math.max(layout.values[place], rest.least(place, ZERO));
             int value = Math.min(atLeast, rest.greatest(place, ZERO));
             layout.values[place] = value;
-            rest.equate(place, ZERO, value);
+            rest.limit(place, ZERO, value);
+            rest.limit(ZERO, place, -value);
         }
     }
 

@@ -668,6 +668,11 @@ public final class PromiseTest {
         dueCounts("c-b=5 does not fit, b must be 1000", x, 5, 3, 3, 3, 8, 5, 3, 980 + 1000 + 35 - 40 + 16);
         x.edit(0, 975, 1);
         dueCounts("c can only be 1000", x, 5, 4, 3, 3, 8, 6, 4, 975 + 995 + 1000 - 40 + 16);
+        StrengthLayout narrow = new StrengthLayout();
+        narrow.add(0, -1, 2, 999, 1);
+        due("a range of two values", narrow.count(5), 0);
+        narrow.add(0, -1, 2, 1000, 1);
+        due("a range of one value", narrow.count(5), 1);
         for (int what : new int[] {-1, 8, FAR, FAR_BELOW}) {
             CHECKS.refused(x, "count " + what, ARGUMENT, () -> x.count(what));
         }
